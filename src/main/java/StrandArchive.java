@@ -123,7 +123,7 @@ public final class StrandArchive {
         int state = seed;
         for (int k = readsHeld - 1; k >= 1; k--) {
             // The product wraps at 2 to the power 32, which leaves its value modulo 2 to the power 31 as it is.
-            state = (state * 1103515245 + 12345) & Integer.MAX_VALUE;
+            state = (state * 1103515245 + 12345) & 0x7fffffff;
             int other = state / 65536 % (k + 1);
             Row moved = reads[k];
             reads[k] = reads[other];
