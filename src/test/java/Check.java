@@ -4,14 +4,27 @@ import java.util.function.IntSupplier;
 /** Compares answers with those that are due, and tells the wrong ones. */
 final class Check {
     private static int wrong = 0;
+    private static int sentences = 0;
+    private static String about = "";
 
     private Check() {
     }
 
+    /** Runs the test of one sentence of the document; what it finds wrong is told with the sentence. */
+    static void sentence(String text, Runnable test) {
+        sentences++;
+        about = "\"" + text + "\" ";
+        try {
+            test.run();
+        } catch (RuntimeException e) {
+            tell("threw " + e);
+        }
+        about = "";
+    }
+
     static void due(String what, long got, long want) {
         if (got != want) {
-            wrong++;
-            System.out.println(what + " answered " + got + ", due is " + want);
+            tell(what + " answered " + got + ", due is " + want);
         }
     }
 
@@ -21,9 +34,7 @@ final class Check {
 
     static void dueThrow(String what, IntSupplier call) {
         try {
-            int got = call.getAsInt();
-            wrong++;
-            System.out.println(what + " answered " + got + ", due is NoSuchElementException");
+            tell(what + " answered " + call.getAsInt() + ", due is NoSuchElementException");
         } catch (NoSuchElementException e) {
             return;
         }
@@ -34,9 +45,15 @@ final class Check {
     }
 
     static void finish(String test) {
-        System.out.println(test + ": " + (wrong == 0 ? "all answers are as due" : wrong + " answers are not as due"));
+        String many = sentences == 0 ? "" : sentences + " sentences, ";
+        System.out.println(test + ": " + many + (wrong == 0 ? "all answers are as due" : wrong + " answers are not as due"));
         if (wrong != 0) {
             System.exit(1);
         }
+    }
+
+    private static void tell(String text) {
+        wrong++;
+        System.out.println(about + text);
     }
 }

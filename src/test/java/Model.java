@@ -46,7 +46,7 @@ final class Model {
                 for (int s = 0; s < 10; s++) {
                     column[s] = block[s][c];
                 }
-                int[] word = solved(column, List.of(10, 11, 12, 13, 14, 15));
+                int[] word = solved(column, List.of(10, 11, 12, 13, 14, 15), new int[6]);
                 for (int s = 10; s < 16; s++) {
                     block[s][c] = word[s];
                 }
@@ -88,15 +88,7 @@ final class Model {
         if (n < 0 || n > 60) {
             return false;
         }
-        List<Integer> row = new ArrayList<>();
-        for (int i = 0; i < n; i++) {
-            long rest = i < 32 ? a : b;
-            for (int step = 0; step < i % 32; step++) {
-                rest = Math.floorDiv(rest, 4L);
-            }
-            row.add((int) Math.floorMod(rest, 4L));
-        }
-        return added(row);
+        return added(forgedRow(a, b, n));
     }
 
     boolean shuffle(int seed) {
@@ -172,6 +164,19 @@ final class Model {
 
     int product(int a, int b) {
         return PRODUCTS[Math.floorMod(a, 256)][Math.floorMod(b, 256)];
+    }
+
+    /** The letters that forge makes of two longs. */
+    static List<Integer> forgedRow(long a, long b, int n) {
+        List<Integer> row = new ArrayList<>();
+        for (int i = 0; i < n; i++) {
+            long rest = i < 32 ? a : b;
+            for (int step = 0; step < i % 32; step++) {
+                rest = Math.floorDiv(rest, 4L);
+            }
+            row.add((int) Math.floorMod(rest, 4L));
+        }
+        return row;
     }
 
     /** A whole strand that says these six bytes. */
@@ -378,7 +383,7 @@ final class Model {
             if (open.size() != gaps.size() + many) {
                 continue;
             }
-            int[] word = solved(column, open);
+            int[] word = solved(column, open, new int[6]);
             if (word != null && found != null && !Arrays.equals(word, found)) {
                 throw new IllegalStateException("the document says that there is at most one");
             }
@@ -387,11 +392,17 @@ final class Model {
         return found;
     }
 
-    /** The word with zero sums that may differ in the open places, by elimination; null when there is none. */
-    private static int[] solved(int[] column, List<Integer> open) {
+    /** A column, 0 but for its parity strands, that has these six sums. */
+    static int[] wordWithSums(int... sums) {
+        return solved(new int[16], List.of(10, 11, 12, 13, 14, 15), sums);
+    }
+
+    /** The word with these sums that may differ in the open places, by elimination; null when there is none. */
+    private static int[] solved(int[] column, List<Integer> open, int[] sums) {
         int width = open.size();
         int[][] rows = new int[6][width + 1];
         for (int j = 0; j < 6; j++) {
+            rows[j][width] = sums[j];
             for (int s = 0; s < 16; s++) {
                 int place = open.indexOf(s);
                 if (place >= 0) {

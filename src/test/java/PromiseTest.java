@@ -1,778 +1,743 @@
-import java.util.ArrayList;
 import java.util.List;
+import java.util.function.Consumer;
+import java.util.function.Predicate;
 
 /**
- * Each promise of the document by itself: ordinary inputs, the edges it names, and wrong inputs.
+ * The sentences of the promises, each at the case that it names and at the nearest one on its other side.
  * No object is used for more than 512 calls, since what later ones answer is free.
  */
 final class PromiseTest {
-    /** Block 0, strand 0, data 0 0 0 0: all digits are 0, so 0 and 1 take turns; the sum is 16, the signature 256. */
-    private static final String ZERO_STRAND = "010101010101010101010101010101010" + "000111222111";
-
-    /** What a full write of the bytes of byteAt has to be. */
-    private static final Model WRITTEN = written();
-
-    private static final int LOW = Integer.MIN_VALUE;
-    private static final int HIGH = Integer.MAX_VALUE;
+    private static final int LOW = Bench.LOW;
+    private static final int HIGH = Bench.HIGH;
 
     public static void main(String[] args) {
-        promise1NewObject();
-        promise2Load();
-        promise3Write();
-        promise4Letter();
-        promise5Clear();
-        promise6Read();
-        promise7ReadCut();
-        promise8ReadGrown();
-        promise9Forge();
-        promise10Shuffle();
-        promise11Heap();
-        promise12Decode();
-        promise13Out();
-        promise14Count();
-        promise15Block();
-        promise16Product();
-        tails();
-        fixing();
-        refusedBodies();
-        slots();
-        mending();
-        objectsAreApart();
+        Check.sentence("An object is used for at most 512 calls after it has been made", PromiseTest::call512);
+        Check.sentence("All memory is the class's own.", PromiseTest::objectsAreApart);
+        loadAndWrite();
+        heapAndReads();
+        decodingAndAnswers();
         Check.finish("PromiseTest");
     }
 
-    private static void promise1NewObject() {
-        StrandArchive x = new StrandArchive();
-        Check.due("1 heap()", x.heap(), 0);
-        Check.due("1 letter(0, 0)", x.letter(0, 0), -1);
-        Check.due("1 read(0)", x.read(0), false);
-        Check.due("1 readCut(0, 0)", x.readCut(0, 0), false);
-        Check.due("1 readGrown(0, 0, 0)", x.readGrown(0, 0, 0), false);
-        for (int what = 0; what < 3; what++) {
-            Check.due("1 count(" + what + ")", x.count(what), 0);
-        }
-        Check.dueThrow("1 out(0)", () -> x.out(0));
-        Check.dueThrow("1 block(0, 0)", () -> x.block(0, 0));
-        Check.due("1 write(160)", x.write(160), 64);
-        readStrands(x, 0, 64);
-        Check.due("1 decode(160)", x.decode(160), 1);
-        for (int i = 0; i < 160; i++) {
-            Check.due("1 out(" + i + ")", x.out(i), 0);
-        }
+    private static void loadAndWrite() {
+        Check.sentence("1: All bytes 0; nothing written, an empty heap, nothing decoded.", PromiseTest::newObject);
+        Check.sentence("2: Byte i (0 .. 159) that is to be written becomes b", PromiseTest::loadedBytes);
+        Check.sentence("2: (its lowest eight bits)", PromiseTest::loadedBits);
+        Check.sentence("2: false when there is no such place.", PromiseTest::loadRefuses);
+        Check.sentence("3: The first n bytes are written, in place of what was", PromiseTest::writtenInPlace);
+        Check.sentence("3: the heap becomes empty (the latest decoding stays).", PromiseTest::writeEmptiesTheHeap);
+        Check.sentence("3: How many strands", PromiseTest::howManyStrands);
+        Check.sentence("3: 0, changing nothing, when n is not 1 .. 160.", PromiseTest::writeRefuses);
+        Check.sentence("4: Letter i of a written strand (block by block, 16 each)", PromiseTest::lettersBlockByBlock);
+        Check.sentence("4: NONE when there is none.", PromiseTest::noSuchLetter);
     }
 
-    private static void promise2Load() {
-        StrandArchive x = new StrandArchive();
-        for (int i : new int[] {-1, 160, LOW, HIGH}) {
-            Check.due("2 load(" + i + ", 1)", x.load(i, 1), false);
+    private static void heapAndReads() {
+        Check.sentence("5: The heap becomes empty.", PromiseTest::clearEmptiesTheHeap);
+        Check.sentence("6: A copy of a written strand comes into the heap", PromiseTest::readCopies);
+        Check.sentence("6: false, changing nothing, when there is none", PromiseTest::readRefusesStrands);
+        Check.sentence("6: or the heap has 90 (so it is below, too).", PromiseTest::fullHeapRefuses);
+        Check.sentence("7: Likewise without the body's letter at (0 .. 32).", PromiseTest::cutEverywhere);
+        Check.sentence("7: the body's letter at (0 .. 32).", PromiseTest::readCutRefuses);
+        Check.sentence("8: Likewise with a letter put in ahead of the body's letter at (33: behind the body).",
+                PromiseTest::grownEverywhere);
+        Check.sentence("8: a letter put in ahead of the body's letter at (33: behind the body).", PromiseTest::readGrownRefuses);
+        Check.sentence("9: A read of n letters (0 .. 60)", PromiseTest::forgedLengths);
+        Check.sentence("9: letter i is two bits of a, from the lowest on, for i below 32, then of b.", PromiseTest::forgedBits);
+        Check.sentence("10: The heap in another order", PromiseTest::orderCountsForNothing);
+        Check.sentence("10: False, changing nothing, when the seed is below 0.", PromiseTest::shuffleRefuses);
+        Check.sentence("11: How many reads the heap has.", PromiseTest::heapCounts);
+    }
+
+    private static void decodingAndAnswers() {
+        Check.sentence("12: Decodes the heap as n bytes (as many as were written or not; the heap stays)",
+                PromiseTest::decodeAsAnySize);
+        Check.sentence("12: 1 when no block is lost, 0 otherwise", PromiseTest::decodeTellsOfLostBlocks);
+        Check.sentence("12: NONE, changing nothing, when n is not 1 .. 160.", PromiseTest::decodeRefuses);
+        Check.sentence("13: Byte i that was decoded, 0 .. 255.", PromiseTest::decodedBytes);
+        Check.sentence("13: NoSuchElementException: there is none.", PromiseTest::noSuchByte);
+        Check.sentence("14: what 0 how many bytes, 1 reads that were fixed (also if their slot was none of theirs), 2 dropped.",
+                PromiseTest::counts);
+        Check.sentence("14: 0 before any", PromiseTest::countsBeforeAny);
+        Check.sentence("14: NONE for another what.", PromiseTest::noSuchCount);
+        Check.sentence("15: what 0 how many strands were erased, 1 in how many others some byte was changed",
+                PromiseTest::blockCounts);
+        Check.sentence("15: (NONE when it is lost)", PromiseTest::lostBlocks);
+        Check.sentence("15: NoSuchElementException: there is no such block or what.", PromiseTest::noSuchBlock);
+        Check.sentence("16: A product in the field", PromiseTest::allProducts);
+        Check.sentence("16: (of the lowest eight bits).", PromiseTest::productBits);
+    }
+
+    /** Each kind of call as the 512th one; what the 513th answers is free. */
+    private static void call512() {
+        lastCall("write(41)", x -> x.write(41) == 32);
+        lastCall("letter(0, 44)", x -> x.letter(0, 44) == Model.strand(0, 0, 11, 48, 85, 122).get(44));
+        lastCall("load(159, 1)", x -> x.load(159, 1));
+        lastCall("read(15)", x -> x.read(15));
+        lastCall("read(16)", x -> !x.read(16));
+        lastCall("readCut(15, 32)", x -> x.readCut(15, 32));
+        lastCall("readGrown(15, 33, 3)", x -> x.readGrown(15, 33, 3));
+        lastCall("forge(1, 1, 60)", x -> x.forge(1L, 1L, 60));
+        lastCall("shuffle(5)", x -> x.shuffle(5));
+        lastCall("heap()", x -> x.heap() == 89);
+        lastCall("decode(40)", x -> x.decode(40) == 1);
+        lastCall("out(39)", x -> x.out(39) == Bench.byteAt(39));
+        lastCall("count(2)", x -> x.count(2) == 79);
+        lastCall("block(0, 0)", x -> x.block(0, 0) == 6);
+        lastCall("product(128, 2)", x -> x.product(128, 2) == 29);
+    }
+
+    /** Behind 41 calls that write, 89 that read, and 381 decodings of all that. */
+    private static void lastCall(String call, Predicate<StrandArchive> asDue) {
+        StrandArchive x = Bench.written(40);
+        for (int k = 0; k < 89; k++) {
+            if (k < 10) {
+                x.readCut(k, k);
+            } else {
+                x.readGrown(15, k % 34, k % 4);
+            }
         }
-        Check.due("2 load(0, 511)", x.load(0, 511), true);
-        Check.due("2 load(1, -2)", x.load(1, -2), true);
-        Check.due("2 load(2, 7)", x.load(2, 7), true);
-        Check.due("2 load(2, 256)", x.load(2, 256), true);
-        Check.due("2 load(159, 128)", x.load(159, 128), true);
-        x.write(160);
-        Check.due("2 a load after the write", x.load(0, 1), true);
-        readStrands(x, 0, 64);
+        for (int k = 0; k < 381; k++) {
+            Check.due("decode(40) as call " + (131 + k), x.decode(40), 1);
+        }
+        Check.due(call + " as call 512 is as due", asDue.test(x), true);
+    }
+
+    private static void objectsAreApart() {
+        StrandArchive x = Bench.written(160);
+        StrandArchive y = new StrandArchive();
+        Bench.readStrands(x, 0, 64);
         x.decode(160);
-        Check.due("2 out(0)", x.out(0), 255);
-        Check.due("2 out(1)", x.out(1), 254);
-        Check.due("2 out(2)", x.out(2), 0);
-        Check.due("2 out(159)", x.out(159), 128);
+        Check.due("another object's heap()", y.heap(), 0);
+        Check.due("another object's letter(0, 0)", y.letter(0, 0), -1);
+        Check.due("another object's count(0)", y.count(0), 0);
+        Check.due("another object's write(40)", y.write(40), 16);
+        Bench.readStrands(y, 0, 16);
+        y.decode(40);
+        Bench.dueOutZero("another object", y, 0, 40);
+        Bench.dueOut("the first object", x, 0, 160);
     }
 
-    private static void promise3Write() {
+    private static void newObject() {
         StrandArchive x = new StrandArchive();
-        int[] sizes = {1, 39, 40, 41, 80, 81, 120, 121, 160};
-        int[] strands = {16, 16, 16, 32, 32, 48, 48, 64, 64};
-        for (int k = 0; k < sizes.length; k++) {
-            Check.due("3 write(" + sizes[k] + ")", x.write(sizes[k]), strands[k]);
-        }
-        x.write(41);
-        x.read(0);
-        for (int n : new int[] {0, -1, 161, LOW, HIGH}) {
-            Check.due("3 write(" + n + ")", x.write(n), 0);
-        }
-        Check.due("3 heap() after refused writes", x.heap(), 1);
-        Check.due("3 letter(31, 0) after refused writes", x.letter(31, 0), 0);
-        readStrands(x, 1, 32);
-        x.decode(41);
-        fillBytes(x, 40);
-        Check.due("3 write(2)", x.write(2), 16);
-        Check.due("3 heap() after a write", x.heap(), 0);
-        Check.due("3 letter(16, 0) after a smaller write", x.letter(16, 0), -1);
-        Check.due("3 count(0) after a write", x.count(0), 41);
-        Check.due("3 out(0) after a write", x.out(0), 0);
-        readStrands(x, 0, 16);
-        x.decode(40);
-        for (int i = 0; i < 40; i++) {
-            Check.due("3 out(" + i + ") of two bytes", x.out(i), i < 2 ? byteAt(i) : 0);
-        }
-        paritySumsAreZero();
+        Check.due("heap()", x.heap(), 0);
+        Check.due("letter(0, 0)", x.letter(0, 0), -1);
+        Check.due("read(0)", x.read(0), false);
+        Check.due("readCut(0, 0)", x.readCut(0, 0), false);
+        Check.due("readGrown(0, 0, 0)", x.readGrown(0, 0, 0), false);
+        Check.dueThrow("out(0)", () -> x.out(0));
+        Check.dueThrow("block(0, 0)", () -> x.block(0, 0));
+        Check.dueThrow("block(0, 1)", () -> x.block(0, 1));
+        Check.due("decode(160) of nothing", x.decode(160), 0);
+        Check.due("count(2) of nothing", x.count(2), 0);
+        Check.due("write(160)", x.write(160), 64);
+        Bench.readStrands(x, 0, 64);
+        Check.due("decode(160)", x.decode(160), 1);
+        Bench.dueOutZero("bytes that were not loaded", x, 0, 160);
     }
 
-    /** The six sums over sixteen strands of each column. */
-    private static void paritySumsAreZero() {
-        Model model = new Model();
-        for (int b = 0; b < 4; b++) {
-            int[][] bytes = new int[16][];
-            for (int s = 0; s < 16; s++) {
-                StrandArchive x = new StrandArchive();
-                fillBytes(x, 150);
-                x.write(150);
-                List<Integer> body = new ArrayList<>();
-                for (int i = 0; i < 33; i++) {
-                    body.add(x.letter(16 * b + s, i));
-                }
-                bytes[s] = Model.bytesOf(body);
-            }
-            for (int k = 0; k < 24; k++) {
-                int sum = 0;
-                for (int s = 0; s < 16; s++) {
-                    int term = bytes[s][2 + k % 4];
-                    for (int factor = 0; factor < k / 4 * s; factor++) {
-                        term = model.product(term, 2);
-                    }
-                    sum ^= term;
-                }
-                Check.due("3 sum " + k / 4 + " of column " + k % 4 + " in block " + b, sum, 0);
+    private static void loadedBytes() {
+        for (int i : new int[] {0, 1, 39, 40, 158, 159}) {
+            StrandArchive x = new StrandArchive();
+            Check.due("load(" + i + ", 9)", x.load(i, 9), true);
+            Check.due("load(" + i + ", 77)", x.load(i, 77), true);
+            x.write(160);
+            Check.due("a load behind the write", x.load(i, 1), true);
+            Bench.readStrands(x, 0, 64);
+            x.decode(160);
+            for (int k = 0; k < 160; k++) {
+                Check.due("out(" + k + ")", x.out(k), k == i ? 77 : 0);
             }
         }
     }
 
-    private static void promise4Letter() {
+    private static void loadedBits() {
+        int[] loaded = {255, 256, 257, 511, 512, -1, -2, -255, -256, -257, 128, 127, HIGH, LOW, LOW + 1};
+        int[] due = {255, 0, 1, 255, 0, 255, 254, 1, 0, 255, 128, 127, 255, 0, 1};
         StrandArchive x = new StrandArchive();
-        x.write(160);
-        for (int i = 0; i < 45; i++) {
-            Check.due("4 letter(0, " + i + ")", x.letter(0, i), ZERO_STRAND.charAt(i) - '0');
+        for (int i = 0; i < loaded.length; i++) {
+            Check.due("load(" + i + ", " + loaded[i] + ")", x.load(i, loaded[i]), true);
         }
-        fillBytes(x, 160);
-        for (int i = 0; i < 45; i++) {
-            Check.due("4 letter(0, " + i + ") after loads alone", x.letter(0, i), ZERO_STRAND.charAt(i) - '0');
-        }
-        int[][] wrong = {{-1, 0}, {64, 0}, {0, -1}, {0, 45}, {LOW, 0}, {HIGH, 0}, {0, LOW}, {0, HIGH}};
-        for (int[] pair : wrong) {
-            Check.due("4 letter(" + pair[0] + ", " + pair[1] + ")", x.letter(pair[0], pair[1]), -1);
-        }
-        for (int strand = 0; strand < 64; strand++) {
-            if (strand % 16 < 10) {
-                lettersOfDataStrand(strand);
-            }
-        }
-    }
-
-    private static void lettersOfDataStrand(int strand) {
-        StrandArchive x = new StrandArchive();
-        fillBytes(x, 160);
-        x.write(160);
-        int b = strand / 16;
-        int s = strand % 16;
-        int first = 40 * b + 4 * s;
-        List<Integer> row = Model.strand(b, s, byteAt(first), byteAt(first + 1), byteAt(first + 2), byteAt(first + 3));
-        for (int i = 0; i < 45; i++) {
-            Check.due("4 letter(" + strand + ", " + i + ")", x.letter(strand, i), row.get(i));
-        }
-    }
-
-    private static void promise5Clear() {
-        StrandArchive x = new StrandArchive();
-        x.load(0, 9);
         x.write(40);
-        x.clear();
-        Check.due("5 heap() of an empty one", x.heap(), 0);
-        readStrands(x, 0, 16);
+        Bench.readStrands(x, 0, 16);
         x.decode(40);
-        x.clear();
-        Check.due("5 heap()", x.heap(), 0);
-        Check.due("5 out(0) of the latest decoding", x.out(0), 9);
-        Check.due("5 letter(0, 0)", x.letter(0, 0), 0);
-        Check.due("5 decode(40) of nothing", x.decode(40), 0);
-        Check.due("5 block(0, 0) of nothing", x.block(0, 0), 16);
-        Check.due("5 count(2) of nothing", x.count(2), 0);
+        for (int i = 0; i < loaded.length; i++) {
+            Check.due("out(" + i + ") of " + loaded[i], x.out(i), due[i]);
+        }
     }
 
-    private static void promise6Read() {
+    private static void loadRefuses() {
         StrandArchive x = new StrandArchive();
+        Bench.fillBytes(x, 160);
+        for (int i : new int[] {-1, 160, -160, 161, 255, 256, LOW, HIGH}) {
+            Check.due("load(" + i + ", 1)", x.load(i, 1), false);
+        }
+        Check.due("load(0, 11)", x.load(0, Bench.byteAt(0)), true);
+        Check.due("load(159, 6)", x.load(159, Bench.byteAt(159)), true);
         x.write(160);
-        for (int strand : new int[] {-1, 64, LOW, HIGH}) {
-            Check.due("6 read(" + strand + ")", x.read(strand), false);
-        }
-        Check.due("6 heap() after refused reads", x.heap(), 0);
-        for (int k = 0; k < 90; k++) {
-            Check.due("6 read " + k, x.read(k % 64), true);
-        }
-        Check.due("6 the read behind the 90th", x.read(0), false);
-        Check.due("6 readCut behind the 90th", x.readCut(0, 0), false);
-        Check.due("6 readGrown behind the 90th", x.readGrown(0, 0, 0), false);
-        Check.due("6 forge behind the 90th", x.forge(0L, 0L, 0), false);
-        Check.due("6 heap()", x.heap(), 90);
+        Bench.readStrands(x, 0, 64);
         x.decode(160);
-        Check.due("6 count(2) with 26 strands twice", x.count(2), 52);
-        Check.due("6 count(1) of whole reads", x.count(1), 0);
-        Check.due("6 block(3, 0) with every strand once", x.block(3, 0), 0);
+        Bench.dueOut("behind refused loads", x, 0, 160);
     }
 
-    private static void promise7ReadCut() {
-        StrandArchive x = writtenBlock();
-        int[][] wrong = {{0, -1}, {0, 33}, {-1, 0}, {16, 0}, {0, LOW}, {0, HIGH}, {LOW, 0}, {HIGH, 0}};
-        for (int[] pair : wrong) {
-            Check.due("7 readCut(" + pair[0] + ", " + pair[1] + ")", x.readCut(pair[0], pair[1]), false);
+    private static void writtenInPlace() {
+        StrandArchive x = Bench.written(160);
+        x.load(1, 99);
+        Check.due("letter(0, 21) before the next write", x.letter(0, 21), Model.strand(0, 0, 11, 48, 85, 122).get(21));
+        Check.due("write(2)", x.write(2), 16);
+        Bench.dueLetters(x, 0, Model.strand(0, 0, 11, 99, 0, 0));
+        Bench.dueLetters(x, 9, Model.strand(0, 9, 0, 0, 0, 0));
+        Check.due("letter(16, 0) behind a smaller write", x.letter(16, 0), -1);
+        Check.due("read(16) behind a smaller write", x.read(16), false);
+        Check.due("write(3)", x.write(3), 16);
+        Bench.dueLetters(x, 0, Model.strand(0, 0, 11, 99, 85, 0));
+        Check.due("write(41)", x.write(41), 32);
+        Bench.dueLetters(x, 16, Model.strand(1, 0, Bench.byteAt(40), 0, 0, 0));
+    }
+
+    private static void writeEmptiesTheHeap() {
+        StrandArchive x = Bench.written(40);
+        for (int k = 0; k < 90; k++) {
+            x.read(k < 16 ? k : 15);
         }
-        Check.due("7 heap() after refused reads", x.heap(), 0);
-        for (int at = 0; at < 33; at++) {
-            x = writtenBlock();
-            for (int s = 0; s < 10; s++) {
-                Check.due("7 readCut(" + s + ", " + at + ")", x.readCut(s, at), true);
+        x.decode(40);
+        int[] before = Bench.digest(x);
+        Check.due("write(40)", x.write(40), 16);
+        Check.due("heap()", x.heap(), 0);
+        before[0] = 0;
+        Bench.sameDigest("the latest decoding behind a write", Bench.digest(x), before);
+        x.load(0, 99);
+        x.write(1);
+        Check.due("out(0) behind a write of another byte", x.out(0), Bench.byteAt(0));
+        Check.due("read(0) into the empty heap", x.read(0), true);
+        Check.due("decode(40) of one read", x.decode(40), 0);
+        Check.due("block(0, 0) of one read", x.block(0, 0), 15);
+    }
+
+    private static void howManyStrands() {
+        int[] sizes = {1, 2, 39, 40, 41, 79, 80, 81, 119, 120, 121, 159, 160};
+        int[] strands = {16, 16, 16, 16, 32, 32, 32, 48, 48, 48, 64, 64, 64};
+        StrandArchive x = new StrandArchive();
+        for (int k = 0; k < sizes.length; k++) {
+            Check.due("write(" + sizes[k] + ")", x.write(sizes[k]), strands[k]);
+            Check.due("letter of the last strand of " + sizes[k], x.letter(strands[k] - 1, 44) >= 0, true);
+            Check.due("letter behind the last strand of " + sizes[k], x.letter(strands[k], 44), -1);
+        }
+    }
+
+    private static void writeRefuses() {
+        StrandArchive x = Bench.written(40);
+        Bench.readStrands(x, 0, 15);
+        x.decode(40);
+        int[] before = Bench.digest(x);
+        x.load(0, 99);
+        for (int n : new int[] {0, 161, -1, 200, LOW, HIGH}) {
+            Check.due("write(" + n + ")", x.write(n), 0);
+        }
+        Bench.sameDigest("behind refused writes", Bench.digest(x), before);
+        Bench.dueLetters(x, 0, Model.strand(0, 0, 11, 48, 85, 122));
+        Check.due("decode(40) of the heap that stayed", x.decode(40), 1);
+        Bench.sameDigest("the heap that stayed", Bench.digest(x), before);
+        Check.due("write(1)", x.write(1), 16);
+        Bench.dueLetters(x, 0, Model.strand(0, 0, 99, 0, 0, 0));
+        Check.due("write(160)", x.write(160), 64);
+    }
+
+    private static void lettersBlockByBlock() {
+        for (int b = 0; b < 4; b++) {
+            StrandArchive x = Bench.written(160);
+            for (int s = 0; s < 16; s += 5) {
+                Bench.dueLetters(x, 16 * b + s, Model.withTail(Bench.writtenBody(16 * b + s)));
             }
-            Check.due("7 decode(40)", x.decode(40), 1);
-            Check.due("7 count(1)", x.count(1), 10);
-            Check.due("7 out(" + at + ")", x.out(at), byteAt(at));
         }
     }
 
-    private static void promise8ReadGrown() {
-        StrandArchive x = writtenBlock();
-        int[][] wrong = {{0, -1, 0}, {0, 34, 0}, {0, 0, -1}, {0, 0, 4}, {-1, 0, 0}, {16, 0, 0},
+    private static void noSuchLetter() {
+        StrandArchive none = new StrandArchive();
+        Check.due("letter(0, 0) before any write", none.letter(0, 0), -1);
+        int[] sizes = {1, 40, 41, 160};
+        for (int n : sizes) {
+            StrandArchive x = Bench.written(n);
+            int strands = (n + 39) / 40 * 16;
+            for (int strand : new int[] {0, strands - 1}) {
+                Check.due("letter(" + strand + ", 0) is one", x.letter(strand, 0) >= 0, true);
+                Check.due("letter(" + strand + ", 44) is one", x.letter(strand, 44) >= 0, true);
+                for (int i : new int[] {-1, 45, 46, 60, LOW, HIGH}) {
+                    Check.due("letter(" + strand + ", " + i + ")", x.letter(strand, i), -1);
+                }
+            }
+            for (int strand : new int[] {-1, strands, 64, LOW, HIGH}) {
+                Check.due("letter(" + strand + ", 0)", x.letter(strand, 0), -1);
+                Check.due("letter(" + strand + ", 44)", x.letter(strand, 44), -1);
+            }
+        }
+    }
+
+    private static void clearEmptiesTheHeap() {
+        StrandArchive x = Bench.written(40);
+        x.clear();
+        Check.due("heap() of an empty one", x.heap(), 0);
+        for (int k = 0; k < 90; k++) {
+            x.read(k % 16);
+        }
+        x.decode(40);
+        int[] before = Bench.digest(x);
+        x.clear();
+        Check.due("heap() of a full one", x.heap(), 0);
+        before[0] = 0;
+        Bench.sameDigest("all else behind clear", Bench.digest(x), before);
+        Bench.dueDecoding("nothing", x, 40, 0, 0, 0, 16, -1);
+        for (int k = 0; k < 90; k++) {
+            Check.due("read " + k + " behind clear", x.read(k % 16), true);
+        }
+        Check.due("read 90 behind clear", x.read(0), false);
+    }
+
+    private static void readCopies() {
+        StrandArchive x = Bench.written(160);
+        for (int strand : new int[] {0, 15, 16, 63}) {
+            x.clear();
+            Check.due("read(" + strand + ")", x.read(strand), true);
+            Check.due("heap()", x.heap(), 1);
+            x.decode(160);
+            for (int b = 0; b < 4; b++) {
+                Check.due("block(" + b + ", 0)", x.block(b, 0), b == strand / 16 ? 15 : 16);
+            }
+        }
+        x.clear();
+        Bench.readStrands(x, 0, 64);
+        Check.due("decode(160)", x.decode(160), 1);
+        Bench.dueOut("all strands", x, 0, 160);
+    }
+
+    private static void readRefusesStrands() {
+        for (int n : new int[] {1, 40, 41, 160}) {
+            StrandArchive x = Bench.written(n);
+            int strands = (n + 39) / 40 * 16;
+            Check.due("read(0) of " + n, x.read(0), true);
+            Check.due("read(" + (strands - 1) + ") of " + n, x.read(strands - 1), true);
+            for (int strand : new int[] {-1, strands, LOW, HIGH}) {
+                dueRefused("read(" + strand + ")", x, y -> y.read(strand));
+                dueRefused("readCut(" + strand + ", 0)", x, y -> y.readCut(strand, 0));
+                dueRefused("readGrown(" + strand + ", 0, 0)", x, y -> y.readGrown(strand, 0, 0));
+            }
+        }
+    }
+
+    private static void dueRefused(String call, StrandArchive x, Predicate<StrandArchive> made) {
+        int before = x.heap();
+        Check.due(call, made.test(x), false);
+        Check.due("heap() behind " + call, x.heap(), before);
+    }
+
+    private static void fullHeapRefuses() {
+        dueTheLastOne("read", x -> x.read(15));
+        dueTheLastOne("readCut", x -> x.readCut(15, 32));
+        dueTheLastOne("readGrown", x -> x.readGrown(15, 33, 3));
+        dueTheLastOne("forge", x -> x.forge(0L, 0L, 60));
+    }
+
+    /** Strands 0 to 9 once each, and 79 reads of no length; then the 90th is taken and the 91st refused. */
+    private static void dueTheLastOne(String call, Predicate<StrandArchive> made) {
+        StrandArchive x = Bench.written(40);
+        Bench.readStrands(x, 0, 10);
+        for (int k = 0; k < 79; k++) {
+            x.forge(0L, 0L, 0);
+        }
+        Check.due(call + " into a heap of 89", made.test(x), true);
+        Check.due("heap() behind it", x.heap(), 90);
+        x.decode(40);
+        int[] before = Bench.digest(x);
+        Check.due(call + " into a heap of 90", made.test(x), false);
+        Check.due("read(10) into a heap of 90", x.read(10), false);
+        Check.due("heap() behind them", x.heap(), 90);
+        x.decode(40);
+        Bench.sameDigest("the heap behind a refused " + call, Bench.digest(x), before);
+    }
+
+    private static void cutEverywhere() {
+        for (int at = 0; at < 33; at++) {
+            StrandArchive x = Bench.used(40);
+            for (int s = 0; s < 10; s++) {
+                Check.due("readCut(" + s + ", " + at + ")", x.readCut(s, at), true);
+            }
+            Bench.dueDecoding("cut at " + at, x, 40, 1, 10, 0, 6, 0);
+            Bench.dueOut("cut at " + at, x, 0, 40);
+        }
+    }
+
+    private static void readCutRefuses() {
+        StrandArchive x = Bench.written(40);
+        Check.due("readCut(0, 0)", x.readCut(0, 0), true);
+        Check.due("readCut(15, 32)", x.readCut(15, 32), true);
+        int[][] wrong = {{0, -1}, {0, 33}, {0, 44}, {0, 45}, {0, LOW}, {0, HIGH}, {-1, 0}, {16, 0}, {16, 33}, {LOW, 0}, {HIGH, 0}};
+        for (int[] pair : wrong) {
+            dueRefused("readCut(" + pair[0] + ", " + pair[1] + ")", x, y -> y.readCut(pair[0], pair[1]));
+        }
+        Bench.dueDecoding("behind refused ones", x, 40, 0, 2, 0, 14, -1);
+    }
+
+    private static void grownEverywhere() {
+        for (int at = 0; at <= 33; at++) {
+            for (int letter = 0; letter < 4; letter++) {
+                StrandArchive x = Bench.used(40);
+                for (int s = 0; s < 10; s++) {
+                    Check.due("readGrown(" + s + ", " + at + ", " + letter + ")", x.readGrown(s, at, letter), true);
+                }
+                Bench.dueDecoding("grown at " + at, x, 40, 1, 10, 0, 6, 0);
+                Bench.dueOut("grown at " + at, x, 0, 40);
+            }
+        }
+    }
+
+    private static void readGrownRefuses() {
+        StrandArchive x = Bench.written(40);
+        Check.due("readGrown(0, 0, 0)", x.readGrown(0, 0, 0), true);
+        Check.due("readGrown(15, 33, 3)", x.readGrown(15, 33, 3), true);
+        int[][] wrong = {{0, -1, 0}, {0, 34, 0}, {0, 45, 0}, {0, 0, -1}, {0, 0, 4}, {0, 33, 4}, {-1, 0, 0}, {16, 0, 0},
             {LOW, 0, 0}, {HIGH, 0, 0}, {0, LOW, 0}, {0, HIGH, 0}, {0, 0, LOW}, {0, 0, HIGH}};
         for (int[] three : wrong) {
-            Check.due("8 readGrown(" + three[0] + ", " + three[1] + ", " + three[2] + ")",
-                    x.readGrown(three[0], three[1], three[2]), false);
+            dueRefused("readGrown(" + three[0] + ", " + three[1] + ", " + three[2] + ")", x,
+                    y -> y.readGrown(three[0], three[1], three[2]));
         }
-        Check.due("8 heap() after refused reads", x.heap(), 0);
-        for (int at = 0; at <= 33; at++) {
-            x = writtenBlock();
-            for (int s = 0; s < 10; s++) {
-                Check.due("8 readGrown(" + s + ", " + at + ", " + s % 4 + ")", x.readGrown(s, at, s % 4), true);
-            }
-            Check.due("8 decode(40)", x.decode(40), 1);
-            Check.due("8 count(1)", x.count(1), 10);
-            Check.due("8 out(" + at + ")", x.out(at), byteAt(at));
-        }
+        Bench.dueDecoding("behind refused ones", x, 40, 0, 2, 0, 14, -1);
     }
 
-    private static void promise9Forge() {
+    private static void forgedLengths() {
         StrandArchive x = new StrandArchive();
-        for (int n : new int[] {-1, 61, LOW, HIGH}) {
-            Check.due("9 forge(0, 0, " + n + ")", x.forge(0L, 0L, n), false);
+        for (int n : new int[] {-1, 61, 64, LOW, HIGH}) {
+            dueRefused("forge(-1, -1, " + n + ")", x, y -> y.forge(-1L, -1L, n));
         }
-        Check.due("9 heap() after refused ones", x.heap(), 0);
-        for (int n : new int[] {0, 1, 43, 47, 60}) {
-            Check.due("9 forge(-1, -1, " + n + ")", x.forge(-1L, -1L, n), true);
+        for (int n = 0; n <= 60; n++) {
+            Check.due("forge(-1, -1, " + n + ")", x.forge(-1L, -1L, n), true);
+            Check.due("heap()", x.heap(), n + 1);
         }
-        Check.due("9 heap()", x.heap(), 5);
         x.decode(1);
-        Check.due("9 count(2) of these lengths", x.count(2), 5);
-        x.clear();
-        List<Integer> row = Model.strand(0, 0, 255, 254, 253, 252);
-        // Bits above the last letter are no part of the read.
+        Check.due("count(2) of these", x.count(2), 61);
+        forgedOneLongerOrShorter();
+    }
+
+    /** A tail that is one letter off has two right letters in each three still, so 44 and 46 letters do as well as 45. */
+    private static void forgedOneLongerOrShorter() {
+        List<Integer> row = Model.strand(0, 3, 1, 2, 3, 4);
+        for (int n = 0; n <= 60; n++) {
+            StrandArchive x = Bench.allButOne(3);
+            x.forge(Model.half(row, 0), Model.half(row, 1), n);
+            boolean taken = n >= 44 && n <= 46;
+            int fixed = taken && n != 45 ? 1 : 0;
+            Bench.dueDecoding("the first " + n + " letters", x, 40, taken ? 1 : 0, fixed, taken ? 0 : 1, taken ? 6 : 7, taken ? 0 : -1);
+        }
+    }
+
+    /** Letters 31 and 32, the last of a and the first of b, take all values with the last data byte. */
+    private static void forgedBits() {
+        for (int data = 0; data < 256; data++) {
+            Bench.dueTaken("forged with " + data, Model.strand(0, 3, 255, 254, 253, data), 0, 3, 255, 254, 253, data);
+        }
+        List<Integer> row = Model.strand(0, 3, 9, 8, 7, 6);
+        StrandArchive x = Bench.allButOne(3);
+        // Bits above the last letter are no part of the read, those of the last letter are.
         x.forge(Model.half(row, 0), Model.half(row, 1) | -1L << 26, 45);
-        for (int s = 1; s < 10; s++) {
-            forgeRow(x, Model.strand(0, s, 0, 0, 0, s));
-        }
-        Check.due("9 decode(40)", x.decode(40), 1);
-        Check.due("9 out(0)", x.out(0), 255);
-        Check.due("9 out(3)", x.out(3), 252);
-        Check.due("9 out(39)", x.out(39), 9);
+        Check.due("decode(40) with bits above the read", x.decode(40), 1);
+        Check.due("out(15) with bits above the read", x.out(15), 6);
+        x = Bench.allButOne(3);
+        x.forge(Model.half(row, 0), Model.half(row, 1) ^ 3L << 22 ^ 3L << 24, 45);
+        Check.due("decode(40) with other bits in the last two letters", x.decode(40), 0);
+        Check.due("count(2) with other bits in the last two letters", x.count(2), 1);
     }
 
-    private static void promise10Shuffle() {
-        StrandArchive x = new StrandArchive();
-        Check.due("10 shuffle(0) of nothing", x.shuffle(0), true);
-        for (int seed : new int[] {0, 1, 7, 65536, 123456789, HIGH, -1, LOW}) {
-            shuffleAndDecode(seed);
+    private static void orderCountsForNothing() {
+        StrandArchive none = new StrandArchive();
+        Check.due("shuffle(0) of nothing", none.shuffle(0), true);
+        Check.due("heap()", none.heap(), 0);
+        for (int seed : new int[] {0, 1, 7, 65535, 65536, 123456789, HIGH - 1, HIGH}) {
+            shuffled(seed, true);
         }
     }
 
-    private static void shuffleAndDecode(int seed) {
-        StrandArchive x = new StrandArchive();
-        fillBytes(x, 80);
-        x.write(80);
+    private static void shuffleRefuses() {
+        for (int seed : new int[] {-1, -2, -65536, LOW, LOW + 1}) {
+            shuffled(seed, false);
+        }
+        StrandArchive none = new StrandArchive();
+        Check.due("shuffle(-1) of nothing", none.shuffle(-1), false);
+        Check.due("shuffle(0) of nothing", none.shuffle(0), true);
+    }
+
+    private static void shuffled(int seed, boolean due) {
+        StrandArchive x = Bench.written(80);
         for (int strand = 0; strand < 32; strand++) {
             if (strand % 3 == 1) {
-                x.readCut(strand, strand % 33);
+                x.readCut(strand, strand);
             } else if (strand % 7 != 0) {
                 x.read(strand);
             }
         }
-        forgeRow(x, Model.strand(1, 2, 3, 4, 5, 6));
+        Bench.lie(x, 18, 15);
         x.decode(80);
-        int[] before = digest(x);
-        Check.due("10 shuffle(" + seed + ")", x.shuffle(seed), seed >= 0);
+        int[] before = Bench.digest(x);
+        Check.due("shuffle(" + seed + ")", x.shuffle(seed), due);
         x.decode(80);
-        sameDigest("10 after shuffle(" + seed + ")", digest(x), before);
+        Bench.sameDigest("behind shuffle(" + seed + ")", Bench.digest(x), before);
     }
 
-    private static void promise11Heap() {
-        StrandArchive x = new StrandArchive();
-        x.write(1);
-        x.read(0);
-        Check.due("11 heap() after read", x.heap(), 1);
-        x.readCut(1, 1);
-        Check.due("11 heap() after readCut", x.heap(), 2);
-        x.readGrown(2, 2, 2);
-        Check.due("11 heap() after readGrown", x.heap(), 3);
-        x.forge(0L, 0L, 0);
-        Check.due("11 heap() after forge", x.heap(), 4);
-        x.shuffle(3);
-        x.decode(1);
-        Check.due("11 heap() after shuffle and decode", x.heap(), 4);
-        x.write(161);
-        Check.due("11 heap() after a refused write", x.heap(), 4);
-        x.write(1);
-        Check.due("11 heap() after a write", x.heap(), 0);
+    private static void heapCounts() {
+        StrandArchive x = Bench.written(40);
+        dueHeap(x, "write", 0, y -> { });
+        dueHeap(x, "read", 1, y -> y.read(0));
+        dueHeap(x, "readCut", 2, y -> y.readCut(1, 1));
+        dueHeap(x, "readGrown", 3, y -> y.readGrown(2, 2, 2));
+        dueHeap(x, "forge", 4, y -> y.forge(0L, 0L, 0));
+        dueHeap(x, "shuffle", 4, y -> y.shuffle(3));
+        dueHeap(x, "decode", 4, y -> y.decode(1));
+        dueHeap(x, "a refused write", 4, y -> y.write(161));
+        for (int k = 5; k <= 90; k++) {
+            dueHeap(x, "read", k, y -> y.read(0));
+        }
+        dueHeap(x, "a refused read", 90, y -> y.read(0));
+        dueHeap(x, "clear", 0, y -> y.clear());
     }
 
-    private static void promise12Decode() {
-        StrandArchive x = new StrandArchive();
-        fillBytes(x, 60);
-        x.write(60);
-        readStrands(x, 0, 32);
-        Check.due("12 decode(60)", x.decode(60), 1);
-        int[] before = digest(x);
-        for (int n : new int[] {0, -1, 161, LOW, HIGH}) {
-            Check.due("12 decode(" + n + ")", x.decode(n), -1);
-        }
-        sameDigest("12 after refused ones", digest(x), before);
-        Check.due("12 decode(30) of a longer one", x.decode(30), 1);
-        Check.due("12 count(0) of a longer one", x.count(0), 30);
-        Check.due("12 count(2) of a longer one", x.count(2), 16);
-        Check.due("12 out(29) of a longer one", x.out(29), byteAt(29));
-        Check.due("12 decode(160) of a shorter one", x.decode(160), 0);
-        Check.due("12 count(2) of a shorter one", x.count(2), 0);
-        Check.due("12 block(3, 0) of a shorter one", x.block(3, 0), 16);
-        Check.due("12 out(59) of a shorter one", x.out(59), byteAt(59));
-        Check.due("12 out(60) of a shorter one", x.out(60), 0);
-        Check.due("12 decode(60) again", x.decode(60), 1);
-        sameDigest("12 again", digest(x), before);
+    private static void dueHeap(StrandArchive x, String call, int due, Consumer<StrandArchive> made) {
+        made.accept(x);
+        Check.due("heap() behind " + call, x.heap(), due);
     }
 
-    private static void promise13Out() {
-        StrandArchive x = new StrandArchive();
-        fillBytes(x, 160);
-        x.write(160);
-        readStrands(x, 0, 64);
-        x.decode(160);
-        for (int i = 0; i < 160; i++) {
-            Check.due("13 out(" + i + ")", x.out(i), byteAt(i));
-        }
-        x.decode(41);
-        Check.due("13 out(40)", x.out(40), byteAt(40));
-        for (int i : new int[] {-1, 41, 79, 160, LOW, HIGH}) {
-            Check.dueThrow("13 out(" + i + ")", () -> x.out(i));
-        }
-        x.decode(0);
-        Check.due("13 out(40) after a refused decode", x.out(40), byteAt(40));
+    private static void decodeAsAnySize() {
+        StrandArchive x = Bench.written(80);
+        Bench.readStrands(x, 0, 32);
+        Bench.dueDecoding("as many as were written", x, 80, 1, 0, 0, 0, 0);
+        Bench.dueDecoding("one block of two", x, 40, 1, 0, 16, 0, 0);
+        Check.due("count(0)", x.count(0), 40);
+        Bench.dueDecoding("one byte of 80", x, 1, 1, 0, 16, 0, 0);
+        Check.due("count(0)", x.count(0), 1);
+        Bench.dueDecoding("one byte of the second block", x, 41, 1, 0, 0, 0, 0);
+        Bench.dueOut("one byte of the second block", x, 0, 41);
+        Bench.dueDecoding("three blocks of two", x, 81, 0, 0, 0, 0, 0);
+        Check.due("block(2, 0)", x.block(2, 0), 16);
+        Bench.dueDecoding("four blocks of two", x, 160, 0, 0, 0, 0, 0);
+        Bench.dueOut("four blocks of two", x, 0, 80);
+        Bench.dueOutZero("four blocks of two", x, 80, 160);
+        Check.due("heap()", x.heap(), 32);
+        Bench.dueDecoding("again", x, 80, 1, 0, 0, 0, 0);
+        Bench.dueOut("again", x, 0, 80);
     }
 
-    private static void promise14Count() {
-        StrandArchive x = new StrandArchive();
-        for (int what : new int[] {-1, 3, LOW, HIGH}) {
-            Check.due("14 count(" + what + ")", x.count(what), -1);
+    /** Seven of one block's strands vanish, or six. */
+    private static void decodeTellsOfLostBlocks() {
+        for (int b = 0; b < 4; b++) {
+            StrandArchive x = Bench.written(160);
+            for (int strand = 0; strand < 64; strand++) {
+                if (strand / 16 != b || strand % 16 >= 7) {
+                    x.read(strand);
+                }
+            }
+            Check.due("decode(160) with seven of block " + b + " away", x.decode(160), 0);
+            x.read(16 * b);
+            Check.due("decode(160) with six of block " + b + " away", x.decode(160), 1);
+            x.clear();
+            Check.due("decode(160) of nothing", x.decode(160), 0);
+            Check.due("decode(1) of nothing", x.decode(1), 0);
         }
-        x.write(41);
+    }
+
+    private static void decodeRefuses() {
+        StrandArchive x = Bench.written(60);
+        Bench.readStrands(x, 0, 31);
+        x.decode(60);
+        int[] before = Bench.digest(x);
+        x.readCut(31, 0);
+        before[0]++;
+        for (int n : new int[] {0, 161, -1, 200, LOW, HIGH}) {
+            Check.due("decode(" + n + ")", x.decode(n), -1);
+        }
+        Bench.sameDigest("behind refused ones", Bench.digest(x), before);
+        Check.due("decode(1)", x.decode(1), 1);
+        Check.due("count(0)", x.count(0), 1);
+        Check.due("decode(160)", x.decode(160), 0);
+        Check.due("count(0)", x.count(0), 160);
+        StrandArchive none = new StrandArchive();
+        Check.due("decode(0) of a new object", none.decode(0), -1);
+        Check.due("decode(161) of a new object", none.decode(161), -1);
+        Check.due("count(0) of a new object", none.count(0), 0);
+        Check.dueThrow("out(0) of a new object", () -> none.out(0));
+    }
+
+    private static void decodedBytes() {
+        for (int first : new int[] {0, 128}) {
+            StrandArchive x = new StrandArchive();
+            for (int i = 0; i < 128; i++) {
+                x.load(i, first + i);
+            }
+            x.write(128);
+            Bench.readStrands(x, 0, 64);
+            x.decode(128);
+            for (int i = 0; i < 128; i++) {
+                Check.due("out(" + i + ")", x.out(i), first + i);
+            }
+        }
+    }
+
+    private static void noSuchByte() {
+        StrandArchive none = new StrandArchive();
+        Check.dueThrow("out(0) before any decoding", () -> none.out(0));
+        for (int n : new int[] {1, 39, 40, 41, 159, 160}) {
+            StrandArchive x = Bench.written(n);
+            Bench.readStrands(x, 0, (n + 39) / 40 * 16);
+            x.decode(n);
+            Check.due("out(0) of " + n, x.out(0), Bench.byteAt(0));
+            Check.due("out(" + (n - 1) + ")", x.out(n - 1), Bench.byteAt(n - 1));
+            for (int i : new int[] {-1, n, n + 1, 160, LOW, HIGH}) {
+                Check.dueThrow("out(" + i + ") of " + n, () -> x.out(i));
+            }
+            x.write(160);
+            Check.dueThrow("out(" + n + ") behind a write", () -> x.out(n));
+            x.clear();
+            x.decode(n);
+            Check.due("out(" + (n - 1) + ") of lost ones", x.out(n - 1), 0);
+            Check.dueThrow("out(" + n + ") of lost ones", () -> x.out(n));
+        }
+    }
+
+    private static void counts() {
+        StrandArchive x = Bench.written(80);
         x.readCut(0, 0);
         x.readGrown(0, 0, 1);
         x.readCut(1, 0);
         x.readCut(16, 0);
         x.read(17);
+        x.forge(0L, 0L, 43);
         x.decode(41);
-        Check.due("14 count(0)", x.count(0), 41);
-        Check.due("14 count(1)", x.count(1), 4);
-        Check.due("14 count(2)", x.count(2), 2);
+        dueCounts("two blocks", x, 41, 4, 3);
         x.decode(40);
-        Check.due("14 count(0) of one block", x.count(0), 40);
-        Check.due("14 count(1) of one block", x.count(1), 3);
-        Check.due("14 count(2) of one block", x.count(2), 4);
+        dueCounts("one block", x, 40, 3, 5);
         x.clear();
-        Check.due("14 count(2) of the latest decoding", x.count(2), 4);
-        x.decode(40);
-        Check.due("14 count(1) of nothing", x.count(1), 0);
-        Check.due("14 count(3)", x.count(3), -1);
-    }
-
-    private static void promise15Block() {
-        StrandArchive x = new StrandArchive();
-        fillBytes(x, 80);
-        x.write(80);
-        readStrands(x, 0, 14);
-        lie(x, 14, 1);
-        readStrands(x, 16, 25);
-        x.decode(80);
-        Check.due("15 block(0, 0)", x.block(0, 0), 1);
-        Check.due("15 block(0, 1)", x.block(0, 1), 1);
-        Check.due("15 block(1, 0) of a lost one", x.block(1, 0), 7);
-        Check.due("15 block(1, 1) of a lost one", x.block(1, 1), -1);
-        int[][] wrong = {{-1, 0}, {2, 0}, {0, -1}, {0, 2}, {LOW, 0}, {HIGH, 0}, {0, LOW}, {0, HIGH}, {3, 1}};
-        for (int[] pair : wrong) {
-            Check.dueThrow("15 block(" + pair[0] + ", " + pair[1] + ")", () -> x.block(pair[0], pair[1]));
-        }
-        x.decode(40);
-        Check.dueThrow("15 block(1, 0) of one block", () -> x.block(1, 0));
-    }
-
-    private static void promise16Product() {
-        StrandArchive x = new StrandArchive();
-        Model model = new Model();
-        Check.due("16 product(2, 128)", x.product(2, 128), 29);
-        Check.due("16 product(128, 128)", x.product(128, 128), 19);
-        Check.due("16 product(3, 7)", x.product(3, 7), 9);
-        Check.due("16 product(0, 0)", x.product(0, 0), 0);
-        Check.due("16 product(256, 255)", x.product(256, 255), 0);
-        Check.due("16 product(-255, 77)", x.product(-255, 77), 77);
-        Check.due("16 product(LOW + 2, HIGH)", x.product(LOW + 2, HIGH), x.product(2, 255));
-        for (int a = 0; a < 256; a++) {
-            StrandArchive y = new StrandArchive();
-            for (int b = 0; b < 256; b++) {
-                Check.due("16 product(" + a + ", " + b + ")", y.product(a, b), model.product(a, b));
-            }
-        }
-    }
-
-    private static void tails() {
-        List<Integer> row = Model.strand(0, 3, 1, 2, 3, 4);
-        List<Integer> body = row.subList(0, 33);
-        dueTaken("a whole read", row, 0);
-        for (int part = 0; part < 4; part++) {
-            for (int place = 0; place < 3; place++) {
-                int i = 33 + 3 * part + place;
-                List<Integer> bent = new ArrayList<>(row);
-                bent.set(i, (row.get(i) + 1) % 4);
-                dueTaken("one bent letter at " + i, bent, 0);
-                bent.set(33 + 3 * part + (place + 1) % 3, (row.get(i) + 2) % 4);
-                dueDropped("three letters at " + part + " of the tail", bent);
-            }
-        }
-        int signature = Model.signature(body);
-        int sum = Model.sum(body);
-        dueDropped("a wrong sum", Model.withTail(body, (sum + 1) % 4, signature / 16, signature / 4 % 4, signature % 4));
-        int other = (signature + 1) % 33;
-        dueDropped("a wrong signature", Model.withTail(body, sum, other / 16, other / 4 % 4, other % 4));
-        otherLengths();
-        tiesInSignatures();
-        signatureLimit();
-    }
-
-    /** Reads that would do with a letter more or less between the body and the tail. */
-    private static void otherLengths() {
-        for (int data = 0; data < 256; data++) {
-            List<Integer> row = Model.strand(0, 3, data, 0, 0, 0);
-            List<Integer> longer = Model.with(row, 5, 2);
-            List<Integer> shorter = Model.without(row, 5);
-            for (int length = 47; length <= 60; length++) {
-                longer = Model.with(longer, 34, data % 4);
-                dueDropped(length + " letters", longer);
-            }
-            // Where the body's last letter is the tail's first, one of the two could stand for both.
-            dueDropped("43 letters", Model.without(shorter, 31));
-            dueDropped("42 letters", Model.without(Model.without(shorter, 30), 30));
-        }
-    }
-
-    /** Three unlike letters must not count as a digit of -1, which a higher one would make good. */
-    private static void tiesInSignatures() {
-        for (int data = 0; data < 256; data++) {
-            List<Integer> body = Model.strand(0, 3, data, 0, 0, 0).subList(0, 33);
-            int sum = Model.sum(body);
-            int signature = Model.signature(body);
-            int more = signature + 1;
-            List<Integer> low = Model.withTail(body, sum, more / 16, more / 4 % 4, 0);
-            low.set(43, 1);
-            low.set(44, 2);
-            dueDropped("no last letter of the signature", low);
-            List<Integer> middle = Model.withTail(body, sum, signature / 16 + 1, 0, signature % 4);
-            middle.set(40, 1);
-            middle.set(41, 2);
-            dueDropped("no middle letter of the signature", middle);
-        }
-    }
-
-    /** The signature 33 would be the same as 0 if it were not refused: a body with signature 0 shows it. */
-    private static void signatureLimit() {
-        for (int data = 0; data < 256; data++) {
-            List<Integer> body = Model.strand(0, 3, data, 0, 0, 0).subList(0, 33);
-            if (Model.signature(body) == 0) {
-                int sum = Model.sum(body);
-                dueTaken("a signature of 0", Model.withTail(body, sum, 0, 0, 0), 0);
-                dueDropped("a signature of 33", Model.withTail(body, sum, 2, 0, 1));
-                dueDropped("a cut one with a signature of 33", Model.without(Model.withTail(body, sum, 2, 0, 1), 5));
-                return;
-            }
-        }
-        Check.due("a body with signature 0 was found", false, true);
-    }
-
-    private static void fixing() {
-        for (int data = 0; data < 256; data += 17) {
-            List<Integer> row = Model.strand(0, 3, data, 255 - data, 2 * data % 256, 7);
-            for (int at = 0; at < 33; at++) {
-                dueTaken("cut at " + at, Model.without(row, at), 1);
-            }
-            for (int at = 0; at < 34; at++) {
-                for (int letter = 0; letter < 4; letter++) {
-                    dueTaken("grown at " + at + " with " + letter, Model.with(row, at, letter), 1);
-                }
-            }
-        }
-        List<Integer> body = Model.strand(0, 3, 0, 0, 0, 0).subList(0, 33);
-        List<Integer> tail = Model.strand(0, 3, 200, 100, 50, 25).subList(33, 45);
-        List<Integer> cut = Model.without(body, 32);
-        cut.addAll(tail);
-        List<Integer> grown = Model.with(body, 33, 1);
-        grown.addAll(tail);
-        dueAsModel("a cut one with another's tail", cut);
-        dueAsModel("a grown one with another's tail", grown);
-        readsAreTakenEachByItself();
-    }
-
-    private static void readsAreTakenEachByItself() {
-        List<Integer> three = new ArrayList<>(writtenBody(0));
-        three.set(0, 3);
-        for (int at = 0; at < 33; at++) {
-            StrandArchive x = writtenBlock();
-            for (int s = 0; s < 16; s++) {
-                forgeRow(x, Model.withTail(three));
-                x.readCut(s, at);
-                forgeRow(x, Model.with(Model.withTail(three), 0, 2));
-            }
-            dueDecoding("cut ones between others", x, 40, 1, 16, 32, 0, 0);
-        }
-    }
-
-    private static void refusedBodies() {
-        List<Integer> good = Model.strand(0, 3, 1, 2, 3, 4).subList(0, 33);
-        dueTaken("the good body", Model.withTail(good), 0);
-        for (int i = 0; i < 32; i++) {
-            List<Integer> equal = new ArrayList<>(good);
-            equal.set(i + 1, equal.get(i));
-            dueDroppedInAllForms("equal neighbours at " + i, Model.withTail(equal));
-        }
-        List<Integer> three = new ArrayList<>(good);
-        three.set(0, 3);
-        dueDroppedInAllForms("a first letter 3", Model.withTail(three));
-        dueTaken("a group of 65535", Model.strand(0, 3, 255, 255, 0, 0), 0);
-        dueTaken("a last group of 65535", Model.strand(0, 3, 0, 0, 255, 255), 0);
-        dueDroppedInAllForms("a first group of 65536", Model.strand(256, 0, 0, 0, 0, 0));
-        dueDroppedInAllForms("a second group of 65536", Model.strand(0, 3, 256, 0, 0, 0));
-        dueDroppedInAllForms("a third group of 65536", Model.strand(0, 3, 0, 0, 256, 0));
-        dueDroppedInAllForms("a third group of 177146", Model.strand(0, 3, 0, 0, 691, 250));
-        dueDroppedInAllForms("a block that n has not", Model.strand(1, 3, 0, 0, 0, 0));
-        dueDroppedInAllForms("the block 255", Model.strand(255, 3, 0, 0, 0, 0));
-        dueTaken("the strand 15", Model.strand(0, 15, 0, 0, 0, 0), 0);
-        dueDroppedInAllForms("the strand 16", Model.strand(0, 16, 0, 0, 0, 0));
-        dueDroppedInAllForms("the strand 255", Model.strand(0, 255, 0, 0, 0, 0));
-    }
-
-    private static void slots() {
-        StrandArchive x = writtenBlock();
-        readStrands(x, 0, 16);
-        x.read(3);
-        x.readCut(3, 3);
-        lie(x, 4, 15);
-        dueDecoding("slots said twice and thrice", x, 40, 1, 1, 5, 2, 0);
-        for (int i = 0; i < 40; i++) {
-            Check.due("out(" + i + ") behind slots said twice", x.out(i), byteAt(i));
-        }
-        x.forge(0L, 0L, 45);
-        x.readGrown(5, 0, 2);
-        x.clear();
-        readStrands(x, 0, 16);
-        forgeRow(x, Model.withTail(Model.without(writtenBody(6), 0)));
-        dueDecoding("a dropped read says no slot", x, 40, 1, 0, 1, 0, 0);
-    }
-
-    /** Lies in all columns of so many strands, and so many strands that vanish: twice the one and the other are at most 6. */
-    private static void mending() {
-        for (int vanished = 0; vanished <= 8; vanished++) {
-            for (int lies = 0; lies <= 4; lies++) {
-                if (vanished == 6 && lies > 0) {
-                    continue;
-                }
-                StrandArchive x = writtenBlock();
-                for (int k = 0; k < 16; k++) {
-                    int s = (k * 5 + 3 * vanished + lies) % 16;
-                    if (k >= vanished && k < vanished + lies) {
-                        lie(x, s, 15);
-                    } else if (k >= vanished) {
-                        x.read(s);
-                    }
-                }
-                boolean fits = 2 * lies + vanished <= 6;
-                String name = vanished + " vanished, " + lies + " lie";
-                dueDecoding(name, x, 40, fits ? 1 : 0, 0, 0, vanished, fits ? lies : -1);
-                for (int i = 0; i < 40; i += 3) {
-                    Check.due(name + ": out(" + i + ")", x.out(i), fits ? byteAt(i) : 0);
-                }
-            }
-        }
-        liesInOneColumnEach();
-        oneColumnLosesAll();
-        liesWithNothingToSpare();
-    }
-
-    private static void liesInOneColumnEach() {
-        StrandArchive x = writtenBlock();
-        for (int s = 0; s < 16; s++) {
-            if (s < 12) {
-                lie(x, s, 1 << s % 4);
-            } else {
-                x.read(s);
-            }
-        }
-        dueDecoding("three lies in each column", x, 40, 1, 0, 0, 0, 12);
-        for (int i = 0; i < 40; i++) {
-            Check.due("three lies in each column: out(" + i + ")", x.out(i), byteAt(i));
-        }
-    }
-
-    private static void oneColumnLosesAll() {
-        StrandArchive x = writtenBlock();
-        for (int s = 0; s < 16; s++) {
-            if (s < 4) {
-                lie(x, s, 8);
-            } else {
-                x.read(s);
-            }
-        }
-        dueDecoding("four lies in the last column", x, 40, 0, 0, 0, 0, -1);
-        for (int i = 0; i < 40; i++) {
-            Check.due("four lies in the last column: out(" + i + ")", x.out(i), 0);
-        }
-    }
-
-    /** With six erased strands any ten others are part of a word with zero sums: a lie is believed. */
-    private static void liesWithNothingToSpare() {
-        StrandArchive x = writtenBlock();
-        lie(x, 0, 1);
-        readStrands(x, 1, 10);
-        dueDecoding("a lie with six erased", x, 40, 1, 0, 0, 6, 0);
-        Check.due("a lie with six erased: out(0)", x.out(0), byteAt(0) ^ 1);
-        Check.due("a lie with six erased: out(1)", x.out(1), byteAt(1));
-    }
-
-    private static void objectsAreApart() {
-        StrandArchive x = new StrandArchive();
-        StrandArchive y = new StrandArchive();
-        x.load(0, 5);
+        dueCounts("behind clear", x, 40, 3, 5);
         x.write(1);
-        readStrands(x, 0, 16);
-        x.decode(1);
-        Check.due("another object's heap()", y.heap(), 0);
-        Check.due("another object's write(1)", y.write(1), 16);
-        Check.due("another object's letter(0, 11)", y.letter(0, 11), ZERO_STRAND.charAt(11) - '0');
-        Check.due("another object's count(0)", y.count(0), 0);
+        dueCounts("behind write", x, 40, 3, 5);
+        x.decode(161);
+        dueCounts("behind a refused decode", x, 40, 3, 5);
+        x.decode(160);
+        dueCounts("of nothing", x, 160, 0, 0);
     }
 
-    private static int byteAt(int i) {
-        return (i * 37 + 11) % 256;
-    }
-
-    private static void fillBytes(StrandArchive x, int n) {
-        for (int i = 0; i < n; i++) {
-            x.load(i, byteAt(i));
+    private static void dueCounts(String what, StrandArchive x, int... due) {
+        for (int k = 0; k < 3; k++) {
+            Check.due(what + ": count(" + k + ")", x.count(k), due[k]);
         }
     }
 
-    private static StrandArchive writtenBlock() {
+    private static void countsBeforeAny() {
         StrandArchive x = new StrandArchive();
-        fillBytes(x, 40);
+        dueCounts("a new object", x, 0, 0, 0);
         x.write(40);
-        return x;
+        x.readCut(0, 0);
+        x.forge(0L, 0L, 0);
+        x.decode(0);
+        dueCounts("nothing decoded", x, 0, 0, 0);
+        x.decode(40);
+        dueCounts("decoded", x, 40, 1, 1);
     }
 
-    private static Model written() {
+    private static void noSuchCount() {
+        StrandArchive x = new StrandArchive();
+        for (int turn = 0; turn < 2; turn++) {
+            for (int what : new int[] {-1, 3, LOW, HIGH}) {
+                Check.due("count(" + what + ")", x.count(what), -1);
+            }
+            x.write(160);
+            x.decode(160);
+        }
+    }
+
+    private static void blockCounts() {
+        for (int lies = 0; lies <= 2; lies++) {
+            StrandArchive x = Bench.written(80);
+            Bench.readStrands(x, 0, 16);
+            Bench.readStrands(x, 16, 30 - lies);
+            for (int k = 1; k <= lies; k++) {
+                // Not the same columns; a strand counts once, in however many of them it lies.
+                Bench.lie(x, 30 - k, k == 1 ? 15 : 4);
+            }
+            x.decode(80);
+            Check.due("block(0, 0)", x.block(0, 0), 0);
+            Check.due("block(0, 1)", x.block(0, 1), 0);
+            Check.due("block(1, 0) with " + lies + " lies", x.block(1, 0), 2);
+            Check.due("block(1, 1) with " + lies + " lies", x.block(1, 1), lies);
+            x.write(160);
+            Check.due("block(1, 0) behind write", x.block(1, 0), 2);
+        }
+    }
+
+    private static void lostBlocks() {
+        StrandArchive x = Bench.written(120);
+        Bench.readStrands(x, 0, 10);
+        Bench.readStrands(x, 16, 25);
+        x.decode(120);
+        int[][] due = {{6, 0}, {7, -1}, {16, -1}};
+        for (int b = 0; b < 3; b++) {
+            Check.due("block(" + b + ", 0)", x.block(b, 0), due[b][0]);
+            Check.due("block(" + b + ", 1)", x.block(b, 1), due[b][1]);
+        }
+        x.read(25);
+        x.decode(120);
+        Check.due("block(1, 0) with one read more", x.block(1, 0), 6);
+        Check.due("block(1, 1) with one read more", x.block(1, 1), 0);
+    }
+
+    private static void noSuchBlock() {
+        StrandArchive none = new StrandArchive();
+        Check.dueThrow("block(0, 0) before any decoding", () -> none.block(0, 0));
+        int[] sizes = {1, 40, 41, 80, 81, 120, 121, 160};
+        for (int k = 0; k < sizes.length; k++) {
+            int n = sizes[k];
+            int last = k / 2;
+            StrandArchive x = new StrandArchive();
+            x.decode(n);
+            Check.due("block(0, 0) of " + n, x.block(0, 0), 16);
+            Check.due("block(" + last + ", 1) of " + n, x.block(last, 1), -1);
+            for (int b : new int[] {-1, last + 1, 4, LOW, HIGH}) {
+                Check.dueThrow("block(" + b + ", 0) of " + n, () -> x.block(b, 0));
+                Check.dueThrow("block(" + b + ", 1) of " + n, () -> x.block(b, 1));
+            }
+            for (int what : new int[] {-1, 2, LOW, HIGH}) {
+                Check.dueThrow("block(0, " + what + ") of " + n, () -> x.block(0, what));
+                Check.dueThrow("block(" + (last + 1) + ", " + what + ") of " + n, () -> x.block(last + 1, what));
+            }
+        }
+        StrandArchive x = new StrandArchive();
+        x.decode(160);
+        x.decode(40);
+        Check.dueThrow("block(1, 0) behind a decoding of four blocks", () -> x.block(1, 0));
+    }
+
+    private static void allProducts() {
         Model model = new Model();
-        for (int i = 0; i < 160; i++) {
-            model.load(i, byteAt(i));
+        for (int a = 0; a < 256; a++) {
+            StrandArchive x = new StrandArchive();
+            for (int b = 0; b < 256; b++) {
+                Check.due("product(" + a + ", " + b + ")", x.product(a, b), model.product(a, b));
+            }
         }
-        model.write(160);
-        return model;
-    }
-
-    private static List<Integer> writtenBody(int strand) {
-        List<Integer> letters = new ArrayList<>();
-        for (int i = 0; i < 33; i++) {
-            letters.add(WRITTEN.letter(strand, i));
-        }
-        return letters;
-    }
-
-    private static void readStrands(StrandArchive x, int from, int to) {
-        for (int strand = from; strand < to; strand++) {
-            Check.due("read(" + strand + ")", x.read(strand), true);
-        }
-    }
-
-    /** A forged read for a written strand with other bytes in the columns of the mask. */
-    private static void lie(StrandArchive x, int strand, int mask) {
-        int[] six = Model.bytesOf(writtenBody(strand));
-        for (int c = 0; c < 4; c++) {
-            six[2 + c] ^= (mask >> c & 1) * (1 + (strand * 53 + c * 29) % 255);
-        }
-        forgeRow(x, Model.strand(six));
-    }
-
-    private static void forgeRow(StrandArchive x, List<Integer> row) {
-        Check.due("forge of " + row.size() + " letters", x.forge(Model.half(row, 0), Model.half(row, 1), row.size()), true);
-    }
-
-    private static void dueTaken(String what, List<Integer> row, int fixed) {
         StrandArchive x = new StrandArchive();
-        forgeRow(x, row);
-        dueDecoding(what, x, 40, 0, fixed, 0, 15, -1);
+        for (int a : new int[] {0, 1, 2, 128, 255}) {
+            Check.due("product(" + a + ", 0)", x.product(a, 0), 0);
+            Check.due("product(0, " + a + ")", x.product(0, a), 0);
+            Check.due("product(" + a + ", 1)", x.product(a, 1), a);
+            Check.due("product(1, " + a + ")", x.product(1, a), a);
+        }
     }
 
-    private static void dueDropped(String what, List<Integer> row) {
+    private static void productBits() {
         StrandArchive x = new StrandArchive();
-        forgeRow(x, row);
-        dueDecoding(what, x, 40, 0, 0, 1, 16, -1);
-    }
-
-    private static void dueDroppedInAllForms(String what, List<Integer> row) {
-        dueDropped(what, row);
-        for (int at = 0; at < 33; at += 8) {
-            dueDropped(what + ", cut at " + at, Model.without(row, at));
-            dueDropped(what + ", grown at " + at, Model.with(row, at, at / 8 % 4));
+        int[] wide = {255, 256, 257, 258, 511, 512, -1, -255, -256, -257, HIGH, LOW, LOW + 2};
+        int[] narrow = {255, 0, 1, 2, 255, 0, 255, 1, 0, 255, 255, 0, 2};
+        for (int k = 0; k < wide.length; k++) {
+            Check.due("product(" + wide[k] + ", 1)", x.product(wide[k], 1), narrow[k]);
+            Check.due("product(1, " + wide[k] + ")", x.product(1, wide[k]), narrow[k]);
+            Check.due("product(" + wide[k] + ", 77)", x.product(wide[k], 77), x.product(narrow[k], 77));
         }
-    }
-
-    private static void dueAsModel(String what, List<Integer> row) {
-        Model model = new Model();
-        model.forge(Model.half(row, 0), Model.half(row, 1), row.size());
-        model.decode(40);
-        StrandArchive x = new StrandArchive();
-        forgeRow(x, row);
-        dueDecoding(what, x, 40, 0, model.count(1), model.count(2), model.block(0, 0), -1);
-    }
-
-    private static void dueDecoding(String what, StrandArchive x, int n, int... due) {
-        Check.due(what + ": decode(" + n + ")", x.decode(n), due[0]);
-        Check.due(what + ": count(1)", x.count(1), due[1]);
-        Check.due(what + ": count(2)", x.count(2), due[2]);
-        Check.due(what + ": block(0, 0)", x.block(0, 0), due[3]);
-        Check.due(what + ": block(0, 1)", x.block(0, 1), due[4]);
-    }
-
-    private static int[] digest(StrandArchive x) {
-        int size = x.count(0);
-        int blocks = (size + 39) / 40;
-        int[] all = new int[size + 2 * blocks + 4];
-        for (int i = 0; i < size; i++) {
-            all[i] = x.out(i);
-        }
-        for (int k = 0; k < 2 * blocks; k++) {
-            all[size + k] = x.block(k / 2, k % 2);
-        }
-        for (int what = 0; what < 3; what++) {
-            all[size + 2 * blocks + what] = x.count(what);
-        }
-        all[all.length - 1] = x.heap();
-        return all;
-    }
-
-    private static void sameDigest(String what, int[] got, int[] want) {
-        Check.due(what + ": how many answers", got.length, want.length);
-        for (int k = 0; k < want.length && k < got.length; k++) {
-            Check.due(what + ": answer " + k, got[k], want[k]);
-        }
+        Check.due("product(-1, -1)", x.product(-1, -1), 226);
+        Check.due("product(HIGH, HIGH)", x.product(HIGH, HIGH), 226);
     }
 }
