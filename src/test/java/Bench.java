@@ -131,7 +131,7 @@ final class Bench {
         }
     }
 
-    /** What is due, in this order: decode's answer, how many reads were fixed and dropped, block 0's strands erased and changed. */
+    /** Due, in this order: decode's answer, reads fixed, reads dropped, strands of block 0 erased, and those changed. */
     static void dueDecoding(String what, StrandArchive x, int n, int... due) {
         Check.due(what + ": decode(" + n + ")", x.decode(n), due[0]);
         Check.due(what + ": count(1)", x.count(1), due[1]);

@@ -274,7 +274,7 @@ final class DecodingTermsTest {
         return body;
     }
 
-    /** Behind the 3 all digits are 0: if it were a digit of 0, this would be block 0, strand 0. 1 and 2 make too large a group. */
+    /** Behind the 3 all digits are 0: if it were a digit of 0, this would be block 0, strand 0. 1 and 2 are no slot. */
     private static void firstLetterThree() {
         List<Integer> zero = withZeroDigits(Bench.row("0"));
         Bench.dueTaken("a first letter 0", Model.withTail(zero), 0, 0, 0, 0, 0, 0);

@@ -370,7 +370,8 @@ final class PromiseTest {
         StrandArchive x = Bench.written(40);
         Check.due("readCut(0, 0)", x.readCut(0, 0), true);
         Check.due("readCut(15, 32)", x.readCut(15, 32), true);
-        int[][] wrong = {{0, -1}, {0, 33}, {0, 44}, {0, 45}, {0, LOW}, {0, HIGH}, {-1, 0}, {16, 0}, {16, 33}, {LOW, 0}, {HIGH, 0}};
+        int[][] wrong = {{0, -1}, {0, 33}, {0, 44}, {0, 45}, {0, LOW}, {0, HIGH},
+            {-1, 0}, {16, 0}, {16, 33}, {LOW, 0}, {HIGH, 0}};
         for (int[] pair : wrong) {
             dueRefused("readCut(" + pair[0] + ", " + pair[1] + ")", x, y -> y.readCut(pair[0], pair[1]));
         }
@@ -423,9 +424,11 @@ final class PromiseTest {
         for (int n = 0; n <= 60; n++) {
             StrandArchive x = Bench.allButOne(3);
             x.forge(Model.half(row, 0), Model.half(row, 1), n);
-            boolean taken = n >= 44 && n <= 46;
-            int fixed = taken && n != 45 ? 1 : 0;
-            Bench.dueDecoding("the first " + n + " letters", x, 40, taken ? 1 : 0, fixed, taken ? 0 : 1, taken ? 6 : 7, taken ? 0 : -1);
+            if (n >= 44 && n <= 46) {
+                Bench.dueDecoding("the first " + n + " letters", x, 40, 1, n == 45 ? 0 : 1, 0, 6, 0);
+            } else {
+                Bench.dueDecoding("the first " + n + " letters", x, 40, 0, 0, 1, 7, -1);
+            }
         }
     }
 

@@ -77,8 +77,9 @@ final class StrandTermsTest {
         for (int power = 1; power < 65536; power *= 3) {
             int less = power - 1;
             int[] data = {power / 256, power % 256, less / 256, less % 256};
-            Bench.dueLetters(dataStrand(data), 0, Model.strand(0, 0, data[0], data[1], data[2], data[3]));
-            Bench.dueTaken("groups of " + power + " and one less", Model.strand(0, 3, data[0], data[1], data[2], data[3]), 0, 3, data);
+            List<Integer> row = Model.strand(0, 0, data[0], data[1], data[2], data[3]);
+            Bench.dueLetters(dataStrand(data), 0, row);
+            Bench.dueTaken("groups of " + power + " and one less", row, 0, 0, data);
         }
     }
 
